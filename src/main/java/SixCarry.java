@@ -1266,6 +1266,7 @@ public final class SixCarry {
         int holding = 0;
         /** Somebody would bear more than he CAN when it is parted first. */
         boolean tooMuch = false;
+        private final int[] top = new int[MOST_PLACES];
         private final int[] share = new int[MOST_PLACES];
         private final int[] can = new int[MOST_PLACES];
         /**
@@ -1288,21 +1289,25 @@ public final class SixCarry {
 
         /** False if it FALLS. */
         boolean bears(World w, int slope, int letGo) {
-            Arrays.fill(load, 0);
             tooMuch = false;
-            holding = w.places.heldSet() & ~letGo;
+            holding = 0;
             int least = Integer.MAX_VALUE;
-            for (int p = 0; p < MOST_PLACES; p++) {
-                if ((holding >> p & 1) == 1) {
-                    least = Math.min(least, w.top(p, slope));
-                    can[p] = w.crew.can(w.places.who[p]);
+            int places = w.places.count();
+            for (int p = 0; p < places; p++) {
+                load[p] = 0;
+                int b = w.places.who[p];
+                if (b != NONE && (letGo >> p & 1) == 0) {
+                    holding |= 1 << p;
+                    top[p] = w.top(p, slope);
+                    least = Math.min(least, top[p]);
+                    can[p] = w.crew.can(b);
                 }
             }
             int bearing = 0;
-            for (int p = 0; p < MOST_PLACES; p++) {
-                share[p] = (holding >> p & 1) == 1 ? shareAt(w, p, slope, least) : 0;
-                if (share[p] > 0) {
-                    bearing |= 1 << p;
+            for (int p = 0; p < places; p++) {
+                if ((holding >> p & 1) == 1) {
+                    share[p] = shareAt(w, p, slope, least);
+                    bearing |= share[p] > 0 ? 1 << p : 0;
                 }
             }
             if (bearing == 0) {
@@ -1313,9 +1318,9 @@ public final class SixCarry {
         }
 
         private int shareAt(World w, int p, int slope, int least) {
-            int over = w.top(p, slope) - least;
+            int over = top[p] - least;
             if (w.bearing.lines == 0) {
-                return w.hands == 1 ? 1 : heldTo(over, 0, 999);
+                return w.hands == 1 ? 1 : Math.min(over, 999);
             }
             int slot = NONE;
             if (recalling && within(least, LEAST_TOP, LEAST_TOP + TOPS - 1)) {

@@ -66,6 +66,11 @@ public final class ModelTest {
                 place(p, Math.min(p, crew - 1));
             }
         }
+        for (int p = 0; p < 2 * pairs; p++) {
+            if (chance(20)) {
+                set(7, p, 1);
+            }
+        }
         if (chance(40)) {
             set(5, 0, pick(0, 500));
         }
@@ -198,7 +203,7 @@ public final class ModelTest {
         } else if (sort < 14) {
             int what = pick(-1, 11);
             if (what == 1 && chance(85)) {
-                what = 0;
+                what = chance(50) ? 7 : 0;
             }
             set(what, pick(-1, 7), value(what));
             pairs = m.look(1);
@@ -264,7 +269,7 @@ public final class ModelTest {
                 break;
             }
             case 4:
-                if (small) {
+                if (small || chance(20)) {
                     same("dearest", x.dearest(), m.dearest());
                 }
                 break;

@@ -17,6 +17,7 @@ public final class TextTest {
         staysAsItWas();
         values();
         conditions();
+        longest();
         Check.close();
     }
 
@@ -267,6 +268,39 @@ public final class TextTest {
             good(x, 0, "bear 3 when right = 1 and (" + b + "); bear 1;", 2);
             Check.same("2: not so is " + b, x.loads(1, 0), 50);
         }
+    }
+
+    /** As many TOKENS as a TAPE can have, and as long as it can be. */
+    private static void longest() {
+        SixCarry x = new SixCarry();
+        fails(x, 0, repeat(";", 400), 1, 0);
+        fails(x, 2, repeat(";", 400), 1, 0);
+        fails(x, 0, "bear 1" + repeat("+1", 197), 1, 400);
+        good(x, 0, "bear 1" + repeat("+1", 196) + ";\n", 1);
+        good(x, 1, "tire 1 when 1<2" + repeat("or 1=1 ", 54) + "      ;", 1);
+        good(x, 1, "tire 1 when 1<2" + repeat("and 1=1 ", 48) + ";", 1);
+        x.bearer(60, 300, 0, 0);
+        x.bearer(60, 300, 0, 0);
+        x.place(0, 0);
+        x.place(1, 1);
+        x.set(0, 0, 100);
+        good(x, 0, "bear 1" + repeat("+1", 98) + " when right=1;bear 297;", 2);
+        Check.same("2: 99 of 396", x.loads(1, 0), 25);
+        deepest(x);
+    }
+
+    /** The most that waits at once: at each of nine levels an 'or' and an 'and', within a comparison a sum and a product. */
+    private static void deepest(SixCarry x) {
+        String inner = "1+1*1>1+1*1";
+        StringBuilder b = new StringBuilder();
+        for (int i = 0; i < 8; i++) {
+            b.append("1>1or 1=1and(");
+        }
+        b.append("1>1or 1=1and ").append(inner).append("or 2+2*1=2+1*2and right=1").append(")".repeat(8));
+        good(x, 0, "bear 3 when " + b + ";bear 1;", 2);
+        Check.same("2: so is the deepest", x.loads(1, 0), 75);
+        good(x, 0, "bear 3 when " + b.toString().replace("or 2+2*1=2+1*2and right=1", "") + ";bear 1;", 2);
+        Check.same("2: not so is the deepest", x.loads(1, 0), 50);
     }
 
     private static void good(SixCarry x, int k, String text, int lines) {

@@ -195,9 +195,28 @@ public final class ThoughtTest {
         x.bearer(61, 200, 0, 0);
         // Now 61 three times: with 62 it is 100, with 60 33, 33, 34; without both 0.
         Check.same("17: the one that costs most", x.dearest(), 1);
+        manyKept();
         x.set(9, 1, 10);
         Check.same("17: no ORDER as it is", x.order(0), NONE);
         Check.same("17: none then", x.dearest(), NONE);
+    }
+
+    private static void manyKept() {
+        SixCarry x = crew(new int[] {60, 61, 70, 66, 60, 60, 60}, new int[] {300, 300, 300, 300, 300, 300, 300});
+        Tape.text(x, 0, "bear 100 when tall = 60; bear 110 when tall = 61; bear 200 when tall = 70; bear 150;");
+        x.set(0, 0, 560);
+        x.set(7, 1, 1);
+        x.set(7, 2, 1);
+        x.set(7, 3, 1);
+        // As it is 100, 110, 200, 150; without the one of 70: 60, 61, 60, 66; without 66: 60, 61, 70, 60.
+        Check.same("16: SPREAD", x.order(0), 100);
+        Check.same("17: not the first that falls, nor the last", x.dearest(), 2);
+        x.place(2, 4);
+        x.place(0, 2);
+        x.set(7, 0, 1);
+        x.set(7, 2, 0);
+        Check.same("16: who is KEPT at place 0 is not elsewhere", x.order(12), 0);
+        Check.same("17: place 0", x.dearest(), 0);
     }
 
     private static void cloths() {
@@ -219,6 +238,12 @@ public final class ThoughtTest {
         x.set(0, 0, 999);
         Check.same("18: always it falls", x.cloths(0), NONE);
         Check.same("18: always it falls", x.cloths(10), NONE);
+        SixCarry z = crew(new int[] {60, 60, 64}, new int[] {200, 200, 200});
+        // 3, 0, 0 and 0, 3, 0 make 43 and 57, with nothing for one; nothing makes less.
+        Check.same("18: SPREAD of several", z.cloths(0), 57);
+        Check.same("18: inches of several", z.cloths(1), 3);
+        Check.same("18: the first of several, the less", z.cloths(10), 0);
+        Check.same("18: the first of several", z.cloths(11), 3);
         SixCarry y = crew(new int[] {60, 70}, new int[] {200, 200});
         // Ten inches can't be made up: all on the taller, with the least cloth.
         Check.same("18: SPREAD", y.cloths(0), 100);

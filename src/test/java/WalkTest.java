@@ -7,6 +7,7 @@ public final class WalkTest {
     public static void main(String[] args) {
         wrongPaces();
         linesAndPaces();
+        mostPaces();
         withoutPace();
         tiringByNoLaw();
         tiringByLaw();
@@ -75,6 +76,28 @@ public final class WalkTest {
         Check.same("13: line -1", x.book(-1, 0), NONE - 1);
         Check.same("13: what 4", x.book(0, 4), NONE - 1);
         Check.same("13: what -1", x.book(0, -1), NONE - 1);
+    }
+
+    /** It takes more calls than an object is promised for, but PACE and n has no other way above 99999. */
+    private static void mostPaces() {
+        SixCarry x = new SixCarry();
+        for (int i = 0; i < 62; i++) {
+            Tape.text(x, 2, "walk 200;walk 200;walk 200;walk 200;walk 200;walk 200;walk 200;walk 200;");
+            for (int j = 0; j < 8 && x.look(3) < 99800; j++) {
+                Check.same("10: paces", x.paces(200), 200);
+            }
+        }
+        Tape.text(x, 2, "walk 200;walk 200;walk 200;");
+        for (int i = 0; i < 3 && x.look(3) < 99800; i++) {
+            x.paces(200);
+        }
+        Check.same("10: PACE", x.look(3), 99800);
+        Tape.text(x, 2, "walk 200;walk 200;");
+        Check.same("10: PACE and n is above 99999", x.paces(200), NONE);
+        Check.same("10: nothing is done", x.look(3), 99800);
+        Check.same("10: not above", x.paces(199), 199);
+        Check.same("10: PACE", x.look(3), 99999);
+        Check.same("10: no more", x.paces(1), NONE);
     }
 
     private static void withoutPace() {
@@ -258,6 +281,10 @@ public final class WalkTest {
         Check.same("3: it falls", x.look(4), 1);
         Check.same("3: a PACE all the same", x.look(3), 3);
         Check.same("3: SWAY is 0", x.look(5), 0);
+        x.undo();
+        Check.same("30: FALLS goes back", x.look(4), 0);
+        Check.same("30: SWAY goes back", x.look(5), 1);
+        x.paces(1);
         Check.same("3: he rests", x.of(0, 4), 70);
         Check.same("3: who stands aside, too", x.of(1, 4), 470);
         Check.same("13: its PACE", x.book(0, 0), 2);
@@ -426,6 +453,8 @@ public final class WalkTest {
         x.set(7, 1, 1);
         x.set(8, 1, 3);
         x.seen(1, 25);
+        x.place(0, 1);
+        x.place(1, 0);
         x.paces(2);
         int state = x.look(7);
         Check.yes("31: taken", x.image(true));
@@ -451,12 +480,12 @@ public final class WalkTest {
             Check.same("31: the FAULT stays", x.fault(0), 2);
             Check.yes("31: the TAPE stays", x.end(20));
             x.end(0);
-            int[] whats = {0, 1, 2, 3, 4, 6, 7, 8, 9, 10, 11, 20, 21, 22, 23};
-            int[] due = {100, 2, 4, 2, 0, 1, state, 1, 1, 1, 0, 1, 50, 100, 1};
+            int[] whats = {0, 1, 2, 3, 4, 5, 6, 7, 8, 9, 10, 11, 20, 21, 22, 23};
+            int[] due = {100, 2, 4, 2, 0, 3, 1, state, 1, 1, 1, 0, 1, 50, 100, 1};
             for (int i = 0; i < whats.length; i++) {
                 Check.same("31: look " + whats[i], x.look(whats[i]), due[i]);
             }
-            Check.same("31: who", x.at(1, 0), 1);
+            Check.same("31: who", x.at(1, 0), 0);
             Check.same("31: CLOTH", x.at(1, 1), 2);
             Check.same("31: KEPT", x.at(1, 2), 1);
             Check.same("31: SPEED", x.at(1, 3), 3);
