@@ -1440,7 +1440,6 @@ public final class SixCarry {
         private final Bearing bearing;
         /** What is thought is walked in the world itself, which goes back to this afterwards. */
         private final Moment before = new Moment();
-        private final Moment beforeHelp = new Moment();
         /** The latest pace changed TIRED or SWAY. */
         private boolean changing = false;
 
@@ -1632,7 +1631,6 @@ public final class SixCarry {
         }
 
         void findHelp() {
-            beforeHelp.take(world);
             helpPlace = NONE;
             helpBearer = NONE;
             helpFar = farOn(0);
@@ -1653,7 +1651,6 @@ public final class SixCarry {
                     }
                 }
             }
-            beforeHelp.giveBack(world);
         }
     }
 

@@ -298,6 +298,12 @@ public final class ThoughtTest {
         Tape.text(x, 1, "tire 99 when hands = 1; tire up * up;");
         // By hand 6 paces; on shoulders 100 by 25 and one more is 5, by 16 it is 7.
         Check.same("20: from 5 on", x.line(), 5);
+        Tape.text(x, 1, "tire 99 when hands = 1; tire 99 when up > 8; tire 5;");
+        Check.same("20: on the steepest alone", x.line(), 9);
+        Tape.text(x, 1, "tire 4 when hands = 1; tire 5;");
+        Check.same("20: on the level", x.line(), 0);
+        Tape.text(x, 1, "tire 0;");
+        Check.same("20: as far is not farther", x.line(), NONE);
     }
 
     private static void gates() {
@@ -367,11 +373,26 @@ public final class ThoughtTest {
         x.paces(4);
         Check.same("23: the rest of the way", x.goes(0), 1);
         Check.same("23: its falls alone", x.goes(1), 1);
+        longestWay();
         SixCarry y = crew(new int[] {60}, new int[] {100});
         y.set(10, 0, 500);
         Tape.text(y, 2, "rest 2;");
         Check.same("23: without a pace", y.goes(0), 0);
         Check.same("23: nothing is done", y.goes(2), 500);
+    }
+
+    private static void longestWay() {
+        SixCarry x = crew(new int[] {60}, new int[] {100});
+        x.set(0, 0, 50);
+        x.set(4, 0, 1);
+        Tape.text(x, 1, "tire 1;");
+        Tape.text(x, 2, "walk 200;".repeat(40));
+        Check.same("23: 8000", x.goes(0), 8000);
+        // TIRED 0 .. 500 are 501 paces; then every second pace falls and eases by 1.
+        Check.same("23: FALLS", x.goes(1), 3750);
+        Check.same("23: TIRED", x.goes(2), 500);
+        // One minute ahead of each pace but the first 501.
+        Check.same("24: minutes", x.rests(), 8000 - 501);
     }
 
     private static void rests() {

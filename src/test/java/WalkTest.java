@@ -24,6 +24,7 @@ public final class WalkTest {
         undo();
         whatForgets();
         image();
+        imageOfTheBook();
         Check.close();
     }
 
@@ -439,6 +440,27 @@ public final class WalkTest {
             case 13: x.bearer(0, 0, 0, 0); return false;
             case 14: x.place(9, 0); x.paces(0); return false;
             default: Tape.text(x, 2, "walk 1; foo"); return false;
+        }
+    }
+
+    private static void imageOfTheBook() {
+        SixCarry x = four();
+        Tape.text(x, 2, "rest 1; change 0 to 2; walk 1; rest 2; walk 1;");
+        x.paces(2);
+        x.image(true);
+        for (int round = 0; round < 2; round++) {
+            x.undo();
+            x.undo();
+            Tape.text(x, 2, "rest 7; rest 8; rest 9; rest 10; walk 1;");
+            x.paces(1);
+            Check.yes("31: back", x.image(false));
+            int[][] due = {{0, 3, 1, NONE}, {0, 2, 0, 2}, {1, 3, 2, NONE}};
+            Check.same("31: lines", x.look(6), 3);
+            for (int i = 0; i < 3; i++) {
+                for (int what = 0; what < 4; what++) {
+                    Check.same("31: line " + i + " of THE BOOK, " + what, x.book(i, what), due[i][what]);
+                }
+            }
         }
     }
 
