@@ -408,9 +408,12 @@ public final class SixCarry {
         int lesser = NONE;
         int greater = NONE;
         int places = world.places.count();
+        int there = world.places.heldSet();
         for (int p = 0; p < places; p++) {
             for (int q = p + 1; q < places; q++) {
-                if (!bearing.bears(world, 0, 1 << p | 1 << q)) {
+                int couple = 1 << p | 1 << q;
+                // Where nobody is, there is nobody who could bear nothing unseen.
+                if ((there & couple) != couple || !bearing.bears(world, 0, couple)) {
                     continue;
                 }
                 if (couples == 0) {
@@ -1676,9 +1679,13 @@ public final class SixCarry {
         int findOrder(int kept) {
             orderSpread = NONE;
             fitting = false;
+            // A way has BEARERS at all PLACES, so there is none with nobody at a KEPT one.
+            if ((kept & ~world.places.heldSet()) != 0) {
+                return NONE;
+            }
             int used = 0;
             for (int p = 0; p < world.places.count(); p++) {
-                if ((kept >> p & 1) == 1 && world.places.who[p] != NONE) {
+                if ((kept >> p & 1) == 1) {
                     used |= 1 << world.places.who[p];
                 }
             }

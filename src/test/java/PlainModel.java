@@ -747,7 +747,9 @@ final class PlainModel {
             return;
         }
         if (keep && a.places.get(p).kept == 1) {
-            settings(a, p + 1, keep, into);
+            if (a.places.get(p).who != NONE) {
+                settings(a, p + 1, keep, into);
+            }
             return;
         }
         for (int b = 0; b < a.bearers.size(); b++) {
@@ -1000,7 +1002,8 @@ final class PlainModel {
         List<int[]> couples = new ArrayList<>();
         for (int p = 0; p < now.places.size(); p++) {
             for (int q = p + 1; q < now.places.size(); q++) {
-                if (bears(now, 0, List.of(p, q)) != null) {
+                boolean both = now.places.get(p).who != NONE && now.places.get(q).who != NONE;
+                if (both && bears(now, 0, List.of(p, q)) != null) {
                     couples.add(new int[] {p, q});
                 }
             }

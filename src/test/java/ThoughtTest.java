@@ -167,16 +167,28 @@ public final class ThoughtTest {
     }
 
     private static void orderKept() {
-        SixCarry x = crew(new int[] {60, 62, 60, 61}, new int[] {200, 200, 200, 200});
-        x.set(7, 0, 1);
-        x.place(0, NONE);
-        // Nobody stays nobody; behind 62 are 60 and 60 (100 and nothing), or 60 and 61 (67 and 33).
+        SixCarry x = crew(new int[] {60, 62, 60, 61, 60}, new int[] {200, 200, 200, 200, 200});
         x.set(7, 1, 1);
-        Check.same("16: a KEPT place where nobody is", x.order(10), NONE);
+        x.set(7, 0, 1);
+        // 60 and 62 stay; behind them 60 and 60 bear nothing (100 for one), 60 and 61 make it 67 and 33.
+        Check.same("16: a KEPT place", x.order(10), 0);
         Check.same("16: a KEPT place", x.order(11), 1);
-        Check.same("16: the others", x.order(12), 0);
+        Check.same("16: the others", x.order(12), 2);
         Check.same("16: the others", x.order(13), 3);
-        Check.same("16: SPREAD of three", x.order(0), 67);
+        Check.same("16: SPREAD", x.order(0), 67);
+        x.place(0, NONE);
+        Check.same("16: a KEPT place where nobody is: none", x.order(0), NONE);
+        Check.same("16: none there", x.order(10), NONE);
+        Check.same("16: none at a KEPT place where somebody is", x.order(11), NONE);
+        Check.same("16: none elsewhere", x.order(12), NONE);
+        Check.same("17: no SPREAD that could fall", x.dearest(), NONE);
+        x.set(7, 0, 0);
+        Check.same("16: nobody at a place that is not KEPT", x.order(0), 66);
+        x.set(7, 3, 1);
+        x.place(3, NONE);
+        Check.same("16: the last place KEPT with nobody", x.order(0), NONE);
+        x.place(3, 3);
+        Check.same("16: somebody there again", x.order(13), 3);
     }
 
     private static void dearest() {
@@ -502,6 +514,17 @@ public final class ThoughtTest {
         Check.same("28: none", x.unseen(0), 0);
         Check.same("28: no first", x.unseen(1), NONE);
         Check.same("28: no second", x.unseen(2), NONE);
+        x.set(0, 0, 60);
+        x.place(0, NONE);
+        // 1, 2, 3 are there: 2 with 1 leaves 3, 2 with 3 leaves 1, and 1 with 3 leaves 2, who CAN not.
+        Check.same("28: couples of those who are there", x.unseen(0), 2);
+        Check.same("28: the first of these", x.unseen(1), 1);
+        Check.same("28: and with him", x.unseen(2), 2);
+        x.place(2, NONE);
+        Check.same("28: two alone can't both let go", x.unseen(0), 0);
+        x.place(3, NONE);
+        Check.same("28: one alone", x.unseen(0), 0);
+        Check.same("28: no first with one alone", x.unseen(1), NONE);
     }
 
     private static void helps() {
