@@ -660,10 +660,11 @@ public final class SixCarry {
             return held;
         }
 
+        /** Where nobody is, nobody is kept: such a PLACE binds no ORDER. */
         int keptSet() {
             int set = 0;
             for (int p = 0; p < 2 * pairs; p++) {
-                set |= kept[p] << p;
+                set |= who[p] == NONE ? 0 : kept[p] << p;
             }
             return set;
         }
@@ -1676,13 +1677,10 @@ public final class SixCarry {
             bearing = newBearing;
         }
 
+        /** Somebody is at each of the KEPT PLACES. */
         int findOrder(int kept) {
             orderSpread = NONE;
             fitting = false;
-            // A way has BEARERS at all PLACES, so there is none with nobody at a KEPT one.
-            if ((kept & ~world.places.heldSet()) != 0) {
-                return NONE;
-            }
             int used = 0;
             for (int p = 0; p < world.places.count(); p++) {
                 if ((kept >> p & 1) == 1) {

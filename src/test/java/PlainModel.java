@@ -747,9 +747,7 @@ final class PlainModel {
             return;
         }
         if (keep && a.places.get(p).kept == 1) {
-            if (a.places.get(p).who != NONE) {
-                settings(a, p + 1, keep, into);
-            }
+            settings(a, p + 1, keep, into);
             return;
         }
         for (int b = 0; b < a.bearers.size(); b++) {
@@ -769,7 +767,12 @@ final class PlainModel {
 
     private static All bestOrder(All from) {
         List<All> tried = new ArrayList<>();
-        settings(from.copy(), 0, true, tried);
+        All start = from.copy();
+        for (Place p : start.places) {
+            // Where nobody is, nobody is kept.
+            p.kept = p.who == NONE ? 0 : p.kept;
+        }
+        settings(start, 0, true, tried);
         All best = null;
         int least = Integer.MAX_VALUE;
         for (All a : tried) {

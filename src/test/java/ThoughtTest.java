@@ -176,19 +176,57 @@ public final class ThoughtTest {
         Check.same("16: the others", x.order(12), 2);
         Check.same("16: the others", x.order(13), 3);
         Check.same("16: SPREAD", x.order(0), 67);
+        keptWithNobody(x);
+    }
+
+    /** As in orderKept(): PLACES 0 and 1 are KEPT, and five bearers are there for four PLACES. */
+    private static void keptWithNobody(SixCarry x) {
         x.place(0, NONE);
-        Check.same("16: a KEPT place where nobody is: none", x.order(0), NONE);
-        Check.same("16: none there", x.order(10), NONE);
-        Check.same("16: none at a KEPT place where somebody is", x.order(11), NONE);
-        Check.same("16: none elsewhere", x.order(12), NONE);
-        Check.same("17: no SPREAD that could fall", x.dearest(), NONE);
+        // 62 stays at 1; the pound that is left goes to 61 if he is ahead of him: 34 and 66.
+        Check.same("16: a KEPT place where nobody is binds nothing", x.order(0), 66);
+        int[] due = {3, 1, 0, 2};
+        for (int p = 0; p < 4; p++) {
+            Check.same("16: somebody is set at " + p, x.order(10 + p), due[p]);
+        }
+        Check.same("17: nothing falls without it", x.dearest(), NONE);
+        Check.same("16: it stays KEPT", x.at(0, 2), 1);
+        Check.same("16: nobody is there still", x.at(0, 0), NONE);
         x.set(7, 0, 0);
-        Check.same("16: nobody at a place that is not KEPT", x.order(0), 66);
+        Check.same("16: the same if it is not KEPT", x.order(0), 66);
         x.set(7, 3, 1);
+        Check.same("16: 61 KEPT at 3", x.order(0), 67);
         x.place(3, NONE);
-        Check.same("16: the last place KEPT with nobody", x.order(0), NONE);
+        Check.same("16: the last place KEPT with nobody", x.order(0), 66);
+        Check.same("16: 61 is wanted in front", x.order(10), 3);
         x.place(3, 3);
         Check.same("16: somebody there again", x.order(13), 3);
+        SixCarry few = crew(new int[] {60, 62, 60}, new int[] {200, 200, 200});
+        few.set(7, 3, 1);
+        Check.same("16: too few for a KEPT place where nobody is", few.order(0), NONE);
+        Check.same("17: no SPREAD that could fall", few.dearest(), NONE);
+        few.bearer(60, 200, 0, 0);
+        Check.same("16: enough of them", few.order(13), 3);
+        allKeptWithNobody();
+    }
+
+    private static void allKeptWithNobody() {
+        SixCarry x = crew(new int[] {60, 60, 60, 60}, new int[] {200, 200, 200, 200});
+        x.set(1, 0, 4);
+        for (int b = 4; b < 8; b++) {
+            x.bearer(60, 200, 0, 0);
+        }
+        for (int p = 0; p < 8; p++) {
+            x.set(7, p, 1);
+        }
+        // Eight of one height bear 12 or 13 each.
+        Check.same("16: all KEPT with nobody", x.order(0), 1);
+        for (int p = 0; p < 8; p++) {
+            Check.same("16: the first way", x.order(10 + p), p);
+        }
+        x.place(7, 0);
+        Check.same("16: one KEPT where he is", x.order(17), 0);
+        Check.same("16: the others", x.order(10), 1);
+        Check.same("17: it costs nothing", x.dearest(), NONE);
     }
 
     private static void dearest() {
@@ -207,6 +245,11 @@ public final class ThoughtTest {
         x.bearer(61, 200, 0, 0);
         // Now 61 three times: with 62 it is 100, with 60 33, 33, 34; without both 0.
         Check.same("17: the one that costs most", x.dearest(), 1);
+        x.place(0, NONE);
+        // With 62: 60, 62, 61, 61, which is 50; without him 60 and 61 three times.
+        Check.same("16: a KEPT place with nobody", x.order(0), 50);
+        Check.same("17: it is never the dearest", x.dearest(), 1);
+        x.place(0, 0);
         manyKept();
         x.set(9, 1, 10);
         Check.same("17: no ORDER as it is", x.order(0), NONE);
