@@ -26,6 +26,7 @@ public final class SixCarry {
     private static final int MOST_DIGITS = 4;
     private static final int MOST_BOOK_LINES = 150;
     private static final int BOOK_ROW = 4;
+    private static final int GREATEST_INT = 0x7fffffff;
 
     /** TOP on the level goes from TALL 40 without CLOTH to TALL 80 with CLOTH 6. */
     private static final int LEAST_TOP = 40;
@@ -861,7 +862,7 @@ public final class SixCarry {
 
         int levelAfter(int seconds) {
             int greatest = NONE;
-            int least = Integer.MAX_VALUE;
+            int least = GREATEST_INT;
             for (int p = 0; p < places.count(); p++) {
                 if (places.who[p] == NONE) {
                     continue;
@@ -1295,7 +1296,7 @@ public final class SixCarry {
         boolean bears(World w, int slope, int letGo) {
             tooMuch = false;
             holding = 0;
-            int least = Integer.MAX_VALUE;
+            int least = GREATEST_INT;
             int places = w.places.count();
             for (int p = 0; p < places; p++) {
                 load[p] = 0;
@@ -1424,7 +1425,7 @@ public final class SixCarry {
 
         int spread() {
             int greatest = 0;
-            int least = Integer.MAX_VALUE;
+            int least = GREATEST_INT;
             for (int p = 0; p < MOST_PLACES; p++) {
                 if ((holding >> p & 1) == 1) {
                     greatest = Math.max(greatest, load[p]);

@@ -24,6 +24,14 @@ final class Check {
         same(call, got ? 1 : 0, 0);
     }
 
+    static int right() {
+        return right;
+    }
+
+    static int wrong() {
+        return wrong;
+    }
+
     static boolean allRight() {
         return wrong == 0;
     }

@@ -616,7 +616,7 @@ public final class ThoughtTest {
         x.set(6, 2, 5);
         Tape.text(x, 2, "walk 3; rest 1; change 0 to 4; cloth 3 in 2; walk 9; gate 3; rest 1;");
         x.paces(2);
-        String was = all(x);
+        String was = Edges.look(x);
         x.loads(0, 3);
         x.idle(-4, 0);
         x.order(0);
@@ -633,23 +633,10 @@ public final class ThoughtTest {
         x.fits(0);
         x.unseen(0);
         x.helps(2);
-        Check.yes("4: nothing of it stays", was.equals(all(x)));
+        Check.yes("4: nothing of it stays", was.equals(Edges.look(x)));
         x.undo();
         x.undo();
         Check.same("4: and what can be undone is as it was", x.look(3), 0);
-    }
-
-    private static String all(SixCarry x) {
-        StringBuilder all = new StringBuilder();
-        for (int what = 0; what < 24; what++) {
-            all.append(x.look(what)).append(' ');
-        }
-        for (int i = 0; i < 8; i++) {
-            for (int what = 0; what < 7; what++) {
-                all.append(x.of(i, what)).append(' ').append(x.at(i, what)).append(' ').append(x.book(i, what)).append(' ');
-            }
-        }
-        return all.toString();
     }
 
     /** An answer that was kept must not outlive what it was thought of. */
