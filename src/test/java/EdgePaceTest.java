@@ -192,6 +192,13 @@ public final class EdgePaceTest {
         String what = way + " with the DRAW " + draw + " and SLIP " + slip;
         Check.same(what + ": STATE", x.look(7), due ? Edges.drawn(state) : state);
         Check.same(what + ": THE BOOK", x.look(6), due ? 1 : 0);
+        int hold = 0;
+        for (int b = 0; b < 4; b++) {
+            hold += x.of(b, 4);
+        }
+        if (way.startsWith("walk")) {
+            Check.same(what + ": how many HOLD", hold, due ? 3 : 4);
+        }
     }
 
     @Words(at = "Terms 3", value = "below SLIP (twice that on gravel, 1000 at most)")
@@ -369,11 +376,13 @@ public final class EdgePaceTest {
         Edges.tell(x, 1, "tire tired + 1;");
         x.set(10, 0, 0);
         x.set(10, 3, 7);
-        for (int due : new int[] {1, 3, 7, 15, 31, 63, 127, 226}) {
+        int[] first = {1, 3, 7, 15, 31, 63, 127, 226};
+        int[] last = {15, 31, 63, 127, 226, 325, 424, 523};
+        for (int i = 0; i < first.length; i++) {
             Edges.tell(x, 2, "walk 9;");
             x.paces(1);
-            Check.same("TIRED and one, 99 at most", x.of(0, 4), due);
-            Check.same("his own", x.of(3, 4), due < 15 ? due * 8 + 7 : x.of(3, 4));
+            Check.same("TIRED and one more, 99 at most", x.of(0, 4), first[i]);
+            Check.same("each by his own", x.of(3, 4), last[i]);
         }
         SixCarry y = Edges.crew(2, 3, Edges.all(4, 60), Edges.row(0, 300, 300, 300));
         y.set(2, 0, 1);
@@ -405,7 +414,7 @@ public final class EdgePaceTest {
         }
     }
 
-    /** Two pairs of FEET as told, with LOOSE; after each pace SWAY is as due. */
+    /** By hand, each with his FOOT; after each pace SWAY is as due. */
     private static void swaying(int loose, int[] foot, int... due) {
         SixCarry x = new SixCarry();
         x.set(1, 0, foot.length / 2);

@@ -39,6 +39,7 @@ public final class EdgeThoughtTest {
         x.set(2, 0, 1);
         x.seen(0, 25);
         x.state(12345);
+        Edges.tell(x, 0, "bear over + up * 3 + down * tall + cloth;");
         Edges.tell(x, 2, "walk 3; rest 1; change 0 to 4; cloth 3 in 2; walk 9 gravel; gate 3; rest 1;");
         x.paces(2);
         String was = Edges.look(x);
@@ -868,6 +869,8 @@ public final class EdgeThoughtTest {
         helps("as far is not farther", x, NONE, NONE, NONE);
         x.set(9, 4, 29);
         helps("not so far", x, NONE, NONE, NONE);
+        Edges.tell(x, 1, "tire 99 when up + down > 0; tire 10;");
+        helps("on the level not so far", x, NONE, NONE, NONE);
         x.set(9, 4, 300);
         Edges.tell(x, 1, "tire 0;");
         helps("2000 as it is", x, NONE, NONE, NONE);

@@ -5,6 +5,7 @@ import java.lang.reflect.Modifier;
 import java.nio.file.Files;
 import java.nio.file.Path;
 import java.util.ArrayList;
+import java.util.Arrays;
 import java.util.Comparator;
 import java.util.List;
 import java.util.Map;
@@ -106,7 +107,7 @@ final class Edges {
 
     static int[] all(int many, int v) {
         int[] row = new int[many];
-        java.util.Arrays.fill(row, v);
+        Arrays.fill(row, v);
         return row;
     }
 
